@@ -292,7 +292,8 @@ public final class FanCones {
     }
 
     public boolean shifts(int d, int m, int n) {
-        refusal = !hasLoad(d) ? NOT_THERE : Whole.isBeyond(m, MOST_NUMBER) || Whole.isBeyond(n, MOST_NUMBER) ? BAD_NUMBER : 0;
+        boolean isBeyond = Whole.isBeyond(m, MOST_NUMBER) || Whole.isBeyond(n, MOST_NUMBER);
+        refusal = !hasLoad(d) ? NOT_THERE : isBeyond ? BAD_NUMBER : 0;
         if (refusal != 0) {
             return false;
         }
@@ -508,10 +509,7 @@ public final class FanCones {
             return big;
         }
 
-        /**
-         * The s of s a + t b = 1 for a, b with no common factor; t follows with a and b changed about.
-         * Both come from one run of Euclid's steps, so they belong together.
-         */
+        /** The s of s a + t b = 1, for a, b into which no whole number above 1 goes. */
         static int firstFactor(int a, int b) {
             long big = a;
             long small = b;
@@ -968,7 +966,10 @@ public final class FanCones {
             return turnBetween(ahead(i), behind(i));
         }
 
-        /** By s a + t b = 1 of ray i (a, b): Q is what makes Q and s c + t d, together, the turn's multiple. */
+        /**
+         * With s a + t b = 1 of ray i (a, b) and the ray behind it (c, d): what makes Q (a, b) and (c, d) a multiple
+         * of the turn makes Q and s c + t d one. That saves trying each Q, of which there may be thousands.
+         */
         int kind(int i) {
             int j = behind(i);
             int s = Whole.firstFactor(x(i), y(i));
