@@ -286,8 +286,9 @@ public final class FanConesBounds {
                             x.trouble() == NOT_THERE ? 1 : 0, 0);
                     Check.due(asked.sentence("the last of 24 rays, 6 loads"), "trouble() behind " + asked.name,
                             isAct ? 0 : x.trouble(), 0);
-                    refused(asked, "24 rays, 6 loads", FanConesBounds::full, with(asked.good(), k, high + 1), NOT_THERE);
-                    refused(asked, "24 rays, 6 loads", FanConesBounds::full, with(asked.good(), k, -1), NOT_THERE);
+                    for (int v : new int[] {high + 1, -1}) {
+                        refused(asked, "24 rays, 6 loads", FanConesBounds::full, with(asked.good(), k, v), NOT_THERE);
+                    }
                 }
             }
         }

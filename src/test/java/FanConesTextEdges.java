@@ -336,7 +336,8 @@ public final class FanConesTextEdges {
                 String text = "ray q at " + x + " " + y;
                 if (common(x, y) != 1) {
                     int whole = text.length() - 1;
-                    Check.hasFault(sentence, BOUNDS, text.substring(0, whole) + "^" + text.substring(whole) + ";" + AXES);
+                    String marked = text.substring(0, whole) + "^" + text.substring(whole);
+                    Check.hasFault(sentence, BOUNDS, marked + ";" + AXES);
                 } else if (x * x + y * y != 1) {
                     Check.isFan(sentence, text + ";" + AXES, 5);
                 }
@@ -454,7 +455,8 @@ public final class FanConesTextEdges {
             Check.hasFault(sentence, FORM, CLOSED + ";load d 1 on ^" + word);
             Check.hasFault(sentence, FORM, CLOSED + ";load d 1 on a,1 on ^" + word);
         }
-        for (String word : new String[] {"ra", "rays", "a", "t", "ata", "loa", "loads", "o", "n", "no", "onon", "yar"}) {
+        String[] near = {"ra", "rays", "a", "t", "ata", "loa", "loads", "o", "n", "no", "onon", "yar"};
+        for (String word : near) {
             Check.isFan(sentence, "ray " + word + " at 1 0;ray bb at 0 1;ray cc at -1 -1;load dd 1 on " + word, 3);
             Check.isFan(sentence, "ray aa at 1 0;ray bb at 0 1;ray cc at -1 -1;load " + word + " 1 on aa", 3);
         }
