@@ -24,6 +24,7 @@ public final class FanConesAskEdges {
         actsThatCanBeUndone();
         bitsOfRays();
         kindIsTheLeast();
+        kindOfAnyRays();
         chainOfACone();
         chainHasNotSoMany();
         coneOnARay();
@@ -38,6 +39,7 @@ public final class FanConesAskEdges {
         bentNeedsNoMeasure();
         alikeByWholeNumbers();
         alikeOnEachRay();
+        alikeWhateverTheTurns();
         raysMeetAsNeighbours();
         rayMeetsItself();
         loadsMeetOverAllPairs();
@@ -45,6 +47,7 @@ public final class FanConesAskEdges {
         pointsOnTheRim();
         pointsOfMultiples();
         noPoints();
+        pointsOfManySides();
         greatestPolygons();
         pointsInOrder();
         noSuchPoint();
@@ -184,6 +187,11 @@ public final class FanConesAskEdges {
         Check.due(sentence, "all even", x.about(4), 2);
         FanCones y = Check.made("ray a at 1 0;ray b at 1 2;ray c at -1 0;ray d at 0 -1");
         Check.due(sentence, "1, as one is odd", y.about(4), 1);
+        // Four rays leave 2; each of these, wherever it stands among them, makes it 1.
+        for (String odd : new String[] {"1 0", "0 1", "-1 0", "0 -1", "9 8", "-9 -8"}) {
+            FanCones w = Check.made("ray a at 1 1;ray b at -1 1;ray c at -1 -1;ray d at 1 -1;ray e at " + odd);
+            Check.due(sentence, "1, by the ray at " + odd, w.about(4), 1);
+        }
         FanCones z = Check.made("ray a at 1 0;ray b at 4 7;ray c at -1 0;ray d at -4 -7");
         Check.due(sentence, "7, that of neighbours, 0 that of opposite ones", z.about(4), 7);
     }
@@ -239,6 +247,34 @@ public final class FanConesAskEdges {
                 }
             }
         }
+    }
+
+    private static void kindOfAnyRays() {
+        String sentence = "Q times ray i, and the ray behind it, added, are N times whole numbers";
+        int[][] fans = {{9, 8, -8, 9, -7, -9, 9, -7}, {1, 9, -1, 8, -9, -2, 7, -8}, {5, 3, 2, 7, -9, -4, -1, -9},
+                {0, 1, -9, 7, -1, 0, 8, -9}, {8, 3, -3, 8, -8, -3, 3, -8}, {3, 1, 1, 3, -7, 4, 2, -9}};
+        for (int[] at : fans) {
+            StringBuilder b = new StringBuilder();
+            for (int i = 0; i < 4; i++) {
+                b.append(i == 0 ? "ray " : ";ray ").append((char) ('a' + i)).append(" at ");
+                b.append(at[2 * i]).append(' ').append(at[2 * i + 1]);
+            }
+            FanCones x = Check.made(b.toString());
+            for (int i = 0; i < 4; i++) {
+                int j = (i + 1) % 4;
+                leastKind(sentence, x, i, new long[] {x.ray(i, 0), x.ray(i, 1), x.ray(j, 0), x.ray(j, 1)});
+            }
+        }
+    }
+
+    private static void leastKind(String sentence, FanCones x, int i, long[] at) {
+        long n = at[0] * at[3] - at[1] * at[2];
+        long q = 0;
+        while (q < n && ((q * at[0] + at[2]) % n != 0 || (q * at[1] + at[3]) % n != 0)) {
+            q++;
+        }
+        Check.due(sentence, "N of cone " + i, x.ray(i, 2), n);
+        Check.due(sentence, "Q of cone " + i, x.ray(i, 3), q);
     }
 
     private static int common(int a, int b) {
@@ -475,6 +511,25 @@ public final class FanConesAskEdges {
         }
     }
 
+    private static void alikeWhateverTheTurns() {
+        String sentence = "alike: the number of the first is that of the second and m x + n y";
+        // TURNS 5, 7, 6 and 1
+        FanCones x = Check.made("ray a at 1 0;ray b at 2 5;ray c at -3 -4;ray d at 0 -1;"
+                + "load o 4 on a,-3 on b,2 on c,7 on d;load p 4 on a,-3 on b,2 on c,7 on d");
+        int[][] ways = {{1, 0}, {0, 1}, {-3, 2}, {20, -20}, {-7, -9}};
+        for (int[] way : ways) {
+            x.shifts(0, way[0], way[1]);
+            Check.due(sentence, "the shifted one first", x.alike(0, 1), 1);
+            Check.due(sentence, "the shifted one second", x.alike(1, 0), 1);
+            x.undo();
+            x.shifts(1, way[0], way[1]);
+            Check.due(sentence, "the other one shifted", x.alike(0, 1), 1);
+            x.undo();
+        }
+        x.set(0, 3, 8);
+        Check.due(sentence, "1 more on the last ray", x.alike(0, 1), 0);
+    }
+
     // ---- meeting
 
     private static void raysMeetAsNeighbours() {
@@ -512,13 +567,21 @@ public final class FanConesAskEdges {
         String sentence = "loads meet: over all pairs of rays, in both orders, each with itself once";
         FanCones x = Check.made("ray a at 1 0;ray b at 2 3;ray c at 0 1;ray d at -1 0;ray e at 0 -1;"
                 + "load o 1 on a,2 on b,-3 on c,4 on d,-5 on e;load p 7 on a,-1 on c,2 on e;load z 0 on a");
+        long[][] meet = new long[5][5];
+        long[][] number = new long[3][5];
+        for (int i = 0; i < 5; i++) {
+            for (int j = 0; j < 5; j++) {
+                meet[i][j] = x.rays(i, j);
+            }
+            for (int d = 0; d < 3; d++) {
+                number[d][i] = x.load(d, i);
+            }
+        }
         for (int d = 0; d < 3; d++) {
             for (int e = 0; e < 3; e++) {
                 long sum = 0;
-                for (int i = 0; i < 5; i++) {
-                    for (int j = 0; j < 5; j++) {
-                        sum += x.load(d, i) * x.load(e, j) * x.rays(i, j);
-                    }
+                for (int pair = 0; pair < 25; pair++) {
+                    sum += number[d][pair / 5] * number[e][pair % 5] * meet[pair / 5][pair % 5];
                 }
                 Check.due(sentence, "meets(" + d + ", " + e + ")", x.meets(d, e), sum);
             }
@@ -556,6 +619,14 @@ public final class FanConesAskEdges {
         Check.due(sentence, "m of them", x.point(0, 1, 0, 0), 1);
         x.set(0, 0, -2);
         Check.due(sentence, "points of none", x.points(0, 1), 0);
+        Check.due(sentence, "inner of none", x.inner(0, 1), 0);
+        for (int below = 1; below <= 20; below++) {
+            x.fill(0, 1);
+            x.set(0, 1, -below);
+            // n from below to 1
+            Check.due(sentence, "points between n and s", x.points(0, 1), below == 1 ? 3 : 0);
+            Check.due(sentence, "inner between n and s", x.inner(0, 1), 0);
+        }
     }
 
     private static void pointsOfMultiples() {
@@ -606,6 +677,41 @@ public final class FanConesAskEdges {
                 z -> z.point(0, 1, 0, 0), NOTHING, 1);
         Check.taken(sentence, "needs of none", y, z -> z.needs(0, 1), -2);
         Check.taken(sentence, "needs of none, 0", y, z -> z.needs(0, 0), 1);
+    }
+
+    private static void pointsOfManySides() {
+        String sentence = "a point is one of each ray, of how many there are";
+        for (int round = 0; round < 12; round++) {
+            FanCones x = Check.made("ray a at 1 0;ray b at 3 1;ray c at 1 1;ray d at 1 2;ray e at 0 1;ray f at -1 2;"
+                    + "ray g at -2 1;ray h at -1 0;ray i at -3 -2;ray j at -1 -3;ray k at 1 -2;ray l at 2 -1;"
+                    + "load o 0 on a");
+            for (int i = 0; i < 12; i++) {
+                x.set(0, i, (round * 7 + i * (3 + round)) % 11 - round % 3);
+            }
+            for (int k = 0; k <= 4; k++) {
+                Check.due(sentence, "points of round " + round, x.points(0, k), pointsByHand(x, k, 0));
+                Check.due(sentence, "inner of round " + round, x.inner(0, k), pointsByHand(x, k, 1));
+            }
+        }
+    }
+
+    private static long pointsByHand(FanCones x, int k, int less) {
+        int rays = x.about(0);
+        long[][] row = new long[rays][];
+        for (int i = 0; i < rays; i++) {
+            row[i] = new long[] {x.ray(i, 0), x.ray(i, 1), k * x.load(0, i) - less};
+        }
+        long found = 0;
+        for (int m = -60; m <= 60; m++) {
+            for (int n = -60; n <= 60; n++) {
+                boolean isIn = true;
+                for (long[] ray : row) {
+                    isIn &= m * ray[0] + n * ray[1] >= -ray[2];
+                }
+                found += isIn ? 1 : 0;
+            }
+        }
+        return found;
     }
 
     private static void greatestPolygons() {

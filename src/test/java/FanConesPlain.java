@@ -10,12 +10,13 @@ import java.util.Random;
  * other ways than the class (fractions, tries one by one, angles). The calls are the same at every run of the test.
  */
 public final class FanConesPlain {
-    private static final int RUNS = 1000;
-    private static final int CALLS = 500;
+    private static final int RUNS = 1600;
+    private static final int CALLS = 512;
     private static final int KINDS = 35;
     private static final long THROWN = Long.MIN_VALUE + 77;
 
     private static int wrong = 0;
+    private static int used = 0;
     private static final int[] asked = new int[KINDS];
     private static final int[] answered = new int[KINDS];
 
@@ -40,18 +41,16 @@ public final class FanConesPlain {
         FanCones real = new FanCones();
         Model model = new Model();
         List<String> told = new ArrayList<>();
-        int calls = 0;
-        while (calls < CALLS) {
+        used = 0;
+        boolean goesOn = true;
+        while (goesOn) {
             if (model.rays() == 0 || random.nextInt(run % 3 == 0 ? 20 : 120) == 0) {
-                calls += feedText(random, real, model, told, run);
+                goesOn = feedText(random, real, model, told, run);
             }
             int kind = pick(random, run);
             long[] a = arguments(random, model, kind);
             told.add(kind + Arrays.toString(a));
-            if (!compare(real, model, kind, a, told, run)) {
-                return;
-            }
-            calls++;
+            goesOn = goesOn && compare(real, model, kind, a, told, run);
         }
     }
 
@@ -67,7 +66,7 @@ public final class FanConesPlain {
         return run % 4 == 2 && shrinks && random.nextInt(20) > 0 ? 26 : kind;
     }
 
-    private static int feedText(Random random, FanCones real, Model model, List<String> told, int run) {
+    private static boolean feedText(Random random, FanCones real, Model model, List<String> told, int run) {
         String text = random.nextInt(4) == 0 ? noisy(random, text(random, false)) : text(random, random.nextInt(3) > 0);
         if (random.nextInt(10) == 0) {
             text = noisy(random, text);
@@ -81,10 +80,9 @@ public final class FanConesPlain {
             long[] all = {model.size()};
             told.add("1" + Arrays.toString(all));
             if (model.size() > 0 && !compare(real, model, 1, all, told, run)) {
-                return CALLS;
+                return false;
             }
         }
-        int calls = 1;
         for (int i = 0; i < padded.length(); i += 20) {
             long[] a = new long[5];
             for (int k = 0; k < 20; k++) {
@@ -92,28 +90,30 @@ public final class FanConesPlain {
             }
             told.add("0" + Arrays.toString(a));
             if (!compare(real, model, 0, a, told, run)) {
-                return CALLS;
+                return false;
             }
-            calls++;
         }
         long[] n = {random.nextInt(12) == 0 ? random.nextInt(padded.length() + 3) - 1 : text.length()};
         told.add("1" + Arrays.toString(n) + " of " + text);
         if (!compare(real, model, 1, n, told, run)) {
-            return CALLS;
+            return false;
         }
         long[] none = {};
         for (int kind : new int[] {2, 3, 33, 34}) {
             told.add(kind + "[]");
             if (!compare(real, model, kind, none, told, run)) {
-                return CALLS;
+                return false;
             }
-            calls++;
         }
-        return calls + 1;
+        return true;
     }
 
     private static boolean compare(FanCones real, Model model, int kind, long[] a, List<String> told, int run) {
+        if (used + 3 > CALLS) {
+            return false;
+        }
         asked[kind]++;
+        used++;
         long want = model.call(kind, a);
         long got;
         try {
@@ -123,11 +123,14 @@ public final class FanConesPlain {
             System.out.println("run " + run + ": call " + kind + " threw " + e);
         }
         long wantTrouble = model.trouble;
-        long gotTrouble = real.trouble();
-        if (model.trouble == 0) {
+        if (wantTrouble == 0) {
             answered[kind]++;
         }
-        if (got == want && gotTrouble == wantTrouble && real.where() == model.where()) {
+        // Asked behind all refusals, and now and then: these are calls, too.
+        boolean isAsked = wantTrouble != 0 || used % 4 == 0;
+        used += isAsked ? 2 : 0;
+        long gotTrouble = isAsked ? real.trouble() : wantTrouble;
+        if (got == want && gotTrouble == wantTrouble && (!isAsked || real.where() == model.where())) {
             return true;
         }
         wrong++;

@@ -833,7 +833,8 @@ public final class FanConesPromises {
         due(29, "no cone", x.cut(7), -1);
         due(29, "no cone", x.cut(-1), -1);
         due(29, "trouble", x.trouble(), 1);
-        FanCones over = made("ray a at 2 1;ray b at 0 1;ray c at -1 0;ray d at 0 -1;ray e at 3 -2;load o 5 on e, -3 on a");
+        FanCones over = made("ray a at 2 1;ray b at 0 1;ray c at -1 0;ray d at 0 -1;ray e at 3 -2;"
+                + "load o 5 on e, -3 on a");
         // Between (3, -2) and (2, 1): N 7; the new rays go over (1, 0).
         due(29, "N", over.ray(4, 2), 7);
         due(29, "new rays over the start", over.cut(4), 2);
@@ -895,7 +896,8 @@ public final class FanConesPromises {
         FanCones y = made(SQUARE);
         due(31, "opposite neighbours", y.drop(0), -1);
         due(31, "trouble", y.trouble(), 5);
-        FanCones z = made("ray a at 1 0;ray b at 1 1;ray c at -1 1;ray d at -1 -1;load o 1 on a, 2 on b, 3 on c, 4 on d");
+        FanCones z = made("ray a at 1 0;ray b at 1 1;ray c at -1 1;ray d at -1 -1;"
+                + "load o 1 on a, 2 on b, 3 on c, 4 on d");
         due(31, "ray 0 goes", z.drop(0), -1);
         z.star(3);
         due(31, "ray 0 goes", z.drop(0), 4);
