@@ -74,6 +74,11 @@ final class Check {
         }
     }
 
+    static void ray(String sentence, FanCones x, int i, long wantX, long wantY) {
+        due(sentence, "x of ray " + i, x.ray(i, 0), wantX);
+        due(sentence, "y of ray " + i, x.ray(i, 1), wantY);
+    }
+
     /** A call that isn't refused. */
     static void taken(String sentence, String name, FanCones x, Call call, long want) {
         due(sentence, name, call.on(x), want);

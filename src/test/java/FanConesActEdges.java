@@ -54,11 +54,6 @@ public final class FanConesActEdges {
         Check.end("the edges of acts hold");
     }
 
-    private static void ray(String sentence, FanCones x, int i, long wantX, long wantY) {
-        Check.due(sentence, "x of ray " + i, x.ray(i, 0), wantX);
-        Check.due(sentence, "y of ray " + i, x.ray(i, 1), wantY);
-    }
-
     private static void numbers(String sentence, FanCones x, int d, long... want) {
         for (int i = 0; i < want.length; i++) {
             Check.due(sentence, "load(" + d + ", " + i + ")", x.load(d, i), want[i]);
@@ -243,7 +238,7 @@ public final class FanConesActEdges {
                     + ";ray c at -1 -1;ray d at -1 0;ray e at 1 -9");
             int i = x.cone(cone[0], cone[1]);
             Check.due(sentence, "star", x.star(i), i + 1);
-            ray(sentence, x, i + 1, cone[4], cone[5]);
+            Check.ray(sentence, x, i + 1, cone[4], cone[5]);
             Check.due(sentence, "rays", x.about(0), 6);
         }
     }
@@ -253,15 +248,15 @@ public final class FanConesActEdges {
         String load = ";load o 1 on a,2 on b,3 on c,5 on d";
         FanCones x = Check.made("ray a at 2 1;ray b at -1 1;ray c at -1 -1;ray d at 2 -1" + load);
         Check.taken(sentence, "(1, 0) is the first", x, y -> y.star(3), 0);
-        ray(sentence, x, 0, 1, 0);
+        Check.ray(sentence, x, 0, 1, 0);
         numbers(sentence, x, 0, 1, 1, 2, 3, 5);
         FanCones y = Check.made("ray a at 1 2;ray b at -1 1;ray c at -1 -1;ray d at 2 -1" + load);
         Check.taken(sentence, "(3, 1), behind (1, 0), is the first", y, z -> z.star(3), 0);
-        ray(sentence, y, 0, 3, 1);
+        Check.ray(sentence, y, 0, 3, 1);
         numbers(sentence, y, 0, 6, 1, 2, 3, 5);
         FanCones w = Check.made("ray a at 2 1;ray b at -1 1;ray c at -1 -1;ray d at 1 -2" + load);
         Check.taken(sentence, "(3, -1), ahead of (1, 0), is the last", w, z -> z.star(3), 4);
-        ray(sentence, w, 4, 3, -1);
+        Check.ray(sentence, w, 4, 3, -1);
         numbers(sentence, w, 0, 1, 2, 3, 5, 6);
     }
 
@@ -274,7 +269,7 @@ public final class FanConesActEdges {
             FanCones x = Check.made("ray a at 1 1;ray b at -1 1;ray c at 0 -1;load o " + half[0] + " on a," + half[1]
                     + " on b;load p " + half[1] + " on a," + half[0] + " on b");
             x.star(0);
-            ray(sentence, x, 1, 0, 1);
+            Check.ray(sentence, x, 1, 0, 1);
             Check.due(sentence, "half of " + half[0] + " and " + half[1], x.load(0, 1), half[2]);
             Check.due(sentence, "half of " + half[1] + " and " + half[0], x.load(1, 1), half[2]);
         }
@@ -325,7 +320,7 @@ public final class FanConesActEdges {
             int[] at60 = turned(60, 17, turns);
             int i = x.cone(at53[0], at53[1]);
             Check.taken(sentence, "60, turned " + turns, x, y -> y.star(i), i + 1);
-            ray(sentence, x, x.cone(at60[0], at60[1]), at60[0], at60[1]);
+            Check.ray(sentence, x, x.cone(at60[0], at60[1]), at60[0], at60[1]);
             Check.refused(sentence, "67, turned " + turns, () -> starred(to60, turns, 8),
                     y -> y.star(y.cone(at60[0], at60[1])), NONE, NO_ROOM);
             int[] at54 = turned(54, 23, turns);
@@ -412,13 +407,13 @@ public final class FanConesActEdges {
         FanCones x = Check.made(EIGHT);
         Check.taken(sentence, "cut(0)", x, y -> y.cut(0), 8);
         for (int i = 0; i < 9; i++) {
-            ray(sentence, x, i, 1, i);
+            Check.ray(sentence, x, i, 1, i);
             Check.due(sentence, "turn " + i, x.ray(i, 2), 1);
         }
-        ray(sentence, x, 9, 1, 9);
+        Check.ray(sentence, x, 9, 1, 9);
         Check.due(sentence, "the cone behind it isn't", x.ray(9, 2), 9);
         Check.taken(sentence, "cut(9)", x, y -> y.cut(9), 1);
-        ray(sentence, x, 10, 0, 1);
+        Check.ray(sentence, x, 10, 0, 1);
         Check.due(sentence, "whole cones: all", x.about(2), x.about(0));
         // The last cone, over (1, 0): the new rays come first and last.
         FanCones z = Check.made("ray a at 2 3;ray b at -1 0;ray c at 2 -3;load o -5 on a,4 on c");
@@ -426,12 +421,12 @@ public final class FanConesActEdges {
         // Q 5, the chain 3, 2, 3: (1, -1), (1, 0), (1, 1).
         Check.taken(sentence, "cut(2)", z, y -> y.cut(2), 3);
         Check.due(sentence, "rays", z.about(0), 6);
-        ray(sentence, z, 0, 1, 0);
-        ray(sentence, z, 1, 1, 1);
-        ray(sentence, z, 2, 2, 3);
-        ray(sentence, z, 3, -1, 0);
-        ray(sentence, z, 4, 2, -3);
-        ray(sentence, z, 5, 1, -1);
+        Check.ray(sentence, z, 0, 1, 0);
+        Check.ray(sentence, z, 1, 1, 1);
+        Check.ray(sentence, z, 2, 2, 3);
+        Check.ray(sentence, z, 3, -1, 0);
+        Check.ray(sentence, z, 4, 2, -3);
+        Check.ray(sentence, z, 5, 1, -1);
         // At (1, 0) -1 by 4, at (1, 1) -21 by 12, at (1, -1) 15 by 12.
         numbers(sentence, z, 0, -1, -2, -5, 0, 4, 1);
     }
@@ -527,10 +522,10 @@ public final class FanConesActEdges {
         // Of the first ray its neighbours are the last and the second, of the last one the last but one and the first.
         FanCones first = Check.made("ray a at 1 0;ray b at 1 1;ray c at -1 1;ray d at -1 -2;ray e at 0 -1");
         Check.taken(sentence, "the first", first, y -> y.drop(0), 4);
-        ray(sentence, first, 0, 1, 1);
+        Check.ray(sentence, first, 0, 1, 1);
         FanCones last = Check.made("ray a at 1 0;ray b at -1 1;ray c at -1 -1;ray d at 1 -1");
         Check.taken(sentence, "the last", last, y -> y.drop(3), 3);
-        ray(sentence, last, 2, -1, -1);
+        Check.ray(sentence, last, 2, -1, -1);
     }
 
     private static void dropWithItsNumbers() {
@@ -557,9 +552,9 @@ public final class FanConesActEdges {
         FanCones x = Check.made(HEXAGON);
         Check.due(sentence, "all are light", x.about(7), 63);
         Check.taken(sentence, "lean()", x, y -> y.lean(), 3);
-        ray(sentence, x, 0, 1, 1);
-        ray(sentence, x, 1, -1, 0);
-        ray(sentence, x, 2, 0, -1);
+        Check.ray(sentence, x, 0, 1, 1);
+        Check.ray(sentence, x, 1, -1, 0);
+        Check.ray(sentence, x, 2, 0, -1);
         numbers(sentence, x, 0, 2, 4, 6);
         Check.due(sentence, "one act", x.about(5), 1);
         Check.due(sentence, "undo", x.undo(), 0);

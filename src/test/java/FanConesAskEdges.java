@@ -55,11 +55,6 @@ public final class FanConesAskEdges {
         Check.end("the edges of what is asked hold");
     }
 
-    private static void ray(String sentence, FanCones x, int i, long wantX, long wantY) {
-        Check.due(sentence, "x of ray " + i, x.ray(i, 0), wantX);
-        Check.due(sentence, "y of ray " + i, x.ray(i, 1), wantY);
-    }
-
     private static void newObject() {
         String sentence = "a new object: no fan";
         FanCones x = new FanCones();
@@ -83,15 +78,15 @@ public final class FanConesAskEdges {
         int[][] around = {{1, 0}, {9, 1}, {1, 9}, {0, 1}, {-1, 9}, {-9, 1}, {-1, 0}, {-9, -1}, {-1, -9}, {0, -1},
                 {1, -9}, {9, -1}};
         for (int i = 0; i < 12; i++) {
-            ray(sentence, x, i, around[i][0], around[i][1]);
+            Check.ray(sentence, x, i, around[i][0], around[i][1]);
         }
         FanCones y = Check.made("ray a at 9 -1;ray b at 9 1;ray c at -1 0");
-        ray(sentence, y, 0, 9, 1);
-        ray(sentence, y, 1, -1, 0);
-        ray(sentence, y, 2, 9, -1);
+        Check.ray(sentence, y, 0, 9, 1);
+        Check.ray(sentence, y, 1, -1, 0);
+        Check.ray(sentence, y, 2, 9, -1);
         FanCones z = Check.made("ray a at 9 -1;ray b at -8 1;ray c at -1 -1");
-        ray(sentence, z, 0, -8, 1);
-        ray(sentence, z, 2, 9, -1);
+        Check.ray(sentence, z, 0, -8, 1);
+        Check.ray(sentence, z, 2, 9, -1);
     }
 
     private static void behindTheLastComesTheFirst() {

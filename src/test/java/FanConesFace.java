@@ -117,7 +117,8 @@ public final class FanConesFace {
                 Matcher m = Pattern.compile(bad).matcher(line);
                 need(!m.find(), bad + " in " + where);
             }
-            if (line.matches("\\s+(public |private |static )*[\\w\\[\\]]+ ?\\w*\\(.*\\{") && !line.matches("\\s+(if|for|while|switch|\\}) .*")) {
+            boolean opens = line.matches("\\s+(public |private |static )*[\\w\\[\\]]+ ?\\w*\\(.*\\{");
+            if (opens && !line.matches("\\s+(if|for|while|switch|\\}) .*")) {
                 begun = i;
                 constructor = line.contains("public FanCones(");
             }

@@ -196,8 +196,8 @@ public final class FanConesPlain {
                 b.append((char) ('a' + random.nextInt(26)));
             }
             String name = b.toString();
-            boolean used = names.contains(name) || names.contains("!" + name) || Arrays.asList("at", "on").contains(name);
-            if (!used || !good && random.nextInt(10) == 0) {
+            boolean isTold = names.contains(name) || names.contains("!" + name);
+            if (!isTold && !name.equals("at") && !name.equals("on") || !good && random.nextInt(10) == 0) {
                 return name;
             }
         }

@@ -1,5 +1,3 @@
-import java.util.NoSuchElementException;
-
 /** Each promise of the document by its number: ordinary inputs, the edges that it names, wrong inputs. */
 public final class FanConesPromises {
     private static final long NOTHING = Long.MIN_VALUE;
@@ -71,23 +69,9 @@ public final class FanConesPromises {
         due(promise, call, got ? 1 : 0, want ? 1 : 0);
     }
 
-    private static void feedText(FanCones x, String text) {
-        StringBuilder b = new StringBuilder(text);
-        while (b.length() % 20 != 0) {
-            b.append(' ');
-        }
-        for (int i = 0; i < b.length(); i += 20) {
-            int[] four = new int[5];
-            for (int k = 0; k < 20; k++) {
-                four[k / 4] = four[k / 4] << 8 | b.charAt(i + k) & 255;
-            }
-            x.feed(four[0], four[1], four[2], four[3], four[4]);
-        }
-    }
-
     private static FanCones made(String text) {
         FanCones x = new FanCones();
-        feedText(x, text);
+        Check.feed(x, text);
         if (x.fan(text.length()) < 3) {
             wrong++;
             System.out.println("promise 3: refused, fault " + x.fault() + " at " + x.where() + ": " + text);
@@ -97,7 +81,7 @@ public final class FanConesPromises {
 
     private static void fault(String text, int fault, int where) {
         FanCones x = new FanCones();
-        feedText(x, text);
+        Check.feed(x, text);
         due(3, "fan of " + text, x.fan(text.length()), -1);
         due(36, "trouble of " + text, x.trouble(), 4);
         due(4, "fault of " + text, x.fault(), fault);
@@ -106,19 +90,14 @@ public final class FanConesPromises {
 
     private static void fine(String text, int rays) {
         FanCones x = new FanCones();
-        feedText(x, text);
+        Check.feed(x, text);
         due(3, "fan of " + text, x.fan(text.length()), rays);
         due(4, "fault of " + text, x.fault(), 0);
         due(5, "where of " + text, x.where(), -1);
     }
 
     private static int thrown(FanCones x, int d, int k) {
-        try {
-            x.letter(d, k);
-            return 0;
-        } catch (NoSuchElementException e) {
-            return 1;
-        }
+        return Check.hasLetter(x, d, k) ? 0 : 1;
     }
 
     // ---- 1 to 5, the text
@@ -168,7 +147,7 @@ public final class FanConesPromises {
             due(3, "fan(" + n + ")", x.fan(n), -1);
             due(3, "trouble of it", x.trouble(), 2);
         }
-        feedText(x, PLANE);
+        Check.feed(x, PLANE);
         int size = x.size();
         due(3, "fan(-1)", x.fan(-1), -1);
         due(3, "fan(size + 1)", x.fan(size + 1), -1);
@@ -179,7 +158,7 @@ public final class FanConesPromises {
         due(35, "size behind a fan", x.size(), 0);
         due(3, "load told", x.load(0, 2), 1);
         x.star(0);
-        feedText(x, SQUARE);
+        Check.feed(x, SQUARE);
         due(3, "another fan", x.fan(SQUARE.length()), 4);
         due(3, "loads", x.about(1), 3);
         due(3, "a fan leaves no acts", x.about(5), 0);
@@ -187,9 +166,9 @@ public final class FanConesPromises {
         due(3, "trouble", x.trouble(), 5);
         // Only the first n bytes count.
         String text = "ray a at 1 0;ray b at 0 1;ray c at -1 -1";
-        feedText(x, text + "{{{");
+        Check.feed(x, text + "{{{");
         due(3, "fan of the first bytes", x.fan(text.length()), 3);
-        feedText(x, text + "2");
+        Check.feed(x, text + "2");
         due(3, "fan that ends within a whole", x.fan(text.length()), 3);
         fine("ray a at1 0;ray b at 0 1;ray c at-1-1;load d1on c,2on a", 3);
         fine("  ray  a  at  01  00  ;  ray  b  at  -  0  1  ;  ray  c  at  -  01  -1  ", 3);
@@ -224,7 +203,7 @@ public final class FanConesPromises {
         x.measure();
         due(5, "where behind a call refused by 1", x.where(), -1);
         due(4, "fault stays", x.fault(), 1);
-        feedText(x, PLANE);
+        Check.feed(x, PLANE);
         x.fan(PLANE.length());
         due(4, "fault of a fan without one", x.fault(), 0);
         due(5, "where of it", x.where(), -1);
@@ -998,7 +977,7 @@ public final class FanConesPromises {
         due(34, "no letter", thrown(x, 1, 1), 1);
         due(34, "no load", thrown(x, 2, 0), 1);
         due(34, "trouble, which it doesn't touch", x.trouble(), 1);
-        feedText(x, "load q");
+        Check.feed(x, "load q");
         x.fan(6);
         due(34, "a fault leaves names", x.letter(1, 0), 25);
     }
@@ -1020,7 +999,7 @@ public final class FanConesPromises {
     private static void refusedChangesNothing() {
         FanCones x = made(SQUARE);
         x.star(0);
-        feedText(x, "ray a at 1 0;ray b at 0 1;load q 5 on a");
+        Check.feed(x, "ray a at 1 0;ray b at 0 1;load q 5 on a");
         due(3, "lacks", x.fan(39), -1);
         due(36, "trouble", x.trouble(), 4);
         due(36, "rays stay", x.about(0), 5);
