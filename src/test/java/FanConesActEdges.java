@@ -12,6 +12,8 @@ public final class FanConesActEdges {
 
     private static final String PLANE = "ray a at 1 0;ray b at 0 1;ray c at -1 -1";
     private static final String AXES = "ray e at 1 0;ray n at 0 1;ray w at -1 0;ray s at 0 -1";
+    private static final String SIX_LOADS = AXES + ";load a 0 on e;load b 0 on e;load c 0 on e;load d 0 on e;"
+            + "load f 0 on e;load g 0 on e";
     private static final String HEXAGON = "ray a at 1 0;ray b at 1 1;ray c at 0 1;ray d at -1 0;ray e at -1 -1;"
             + "ray f at 0 -1;load o 1 on a,2 on b,3 on c,4 on d,5 on e,6 on f";
     /** The CHAIN of CONE 0 has eight numbers, that of CONE 1 one: 9. */
@@ -40,6 +42,8 @@ public final class FanConesActEdges {
         dropOfThree();
         dropByTheTurn();
         dropWithItsNumbers();
+        nothingIsLeftOfARayThatWent();
+        nothingIsLeftOfOlderFans();
         leanTheLeastFirst();
         leanOfNone();
         eachActIsUndone();
@@ -62,8 +66,7 @@ public final class FanConesActEdges {
 
     /** Six loads; each has 1,000 on each of the four rays. */
     private static FanCones thousands() {
-        FanCones x = Check.made(AXES + ";load a 0 on e;load b 0 on e;load c 0 on e;load d 0 on e;load f 0 on e;"
-                + "load g 0 on e");
+        FanCones x = Check.made(SIX_LOADS);
         x.fill(0, 20);
         x.adds(0, 0, 3);
         x.adds(0, 0, 3);
@@ -545,6 +548,72 @@ public final class FanConesActEdges {
             long behind = i == 5 ? 1 : i + 2;
             Check.due(sentence, "number of the star", x.load(0, i), ahead + behind);
         }
+    }
+
+    private static void nothingIsLeftOfARayThatWent() {
+        String sentence = "a ray that went is neither asked nor counted";
+        FanCones x = Check.made("ray a at 1 1;ray b at -1 1;ray c at -1 -1;ray d at 1 -1;ray e at 9 -8;load o 1 on a");
+        Check.due(sentence, "index with the ray at 9 -8", x.about(4), 1);
+        x.fill(0, 20);
+        x.adds(0, 0, 3);
+        x.adds(0, 0, 3);
+        x.adds(0, 0, 3);
+        Check.due(sentence, "its number", x.load(0, 4), 1280);
+        Check.due(sentence, "drop(4)", x.drop(4), 4);
+        Check.due(sentence, "index without it", x.about(4), 2);
+        x.fill(0, 0);
+        // By 340 each, the ray that went would be beyond 2,000 at the third.
+        for (int step = 1; step <= 4; step++) {
+            Check.taken(sentence, "shift " + step, x, y -> y.shifts(0, 20, -20) ? 1 : 0, 1);
+        }
+        numbers(sentence, x, 0, 0, -160, 0, 160);
+        Check.taken(sentence, "adds(0, 0, 3)", x, y -> y.adds(0, 0, 3) ? 1 : 0, 1);
+    }
+
+    private static void nothingIsLeftOfOlderFans() {
+        String sentence = "the text is the fan from now on, whatever stood before it";
+        String even = "ray a at 1 1;ray b at -1 1;ray c at -1 -1;ray d at 1 -1;load o 3 on a,-2 on c;load p 1 on b";
+        FanCones x = heavy();
+        FanCones fresh = new FanCones();
+        Check.due(sentence, "fan", Check.read(x, even), Check.read(fresh, even));
+        List<Check.Call> calls = new ArrayList<>();
+        calls.add(y -> y.measure() * 1000 + y.broken(0) * 10 + y.bent(0));
+        calls.add(y -> y.points(0, 4) * 1000 + y.inner(0, 4));
+        calls.add(y -> y.meets(0, 1) * 1000 + y.alike(0, 1));
+        calls.add(y -> y.shifts(0, 20, 20) ? 1 : 0);
+        calls.add(y -> y.adds(0, 0, 3) ? 1 : 0);
+        calls.add(y -> y.adds(1, 0, 3) ? 1 : 0);
+        calls.add(y -> y.star(3));
+        calls.add(y -> y.cutAll());
+        calls.add(y -> y.star(0));
+        calls.add(y -> y.drop(8));
+        calls.add(y -> y.shifts(1, -20, 20) ? 1 : 0);
+        calls.add(y -> y.lean());
+        for (int k = 0; k < calls.size(); k++) {
+            Check.due(sentence, "call " + k, calls.get(k).on(x), calls.get(k).on(fresh));
+            if (k >= 3) {
+                Check.same(sentence, "call " + k, x, fresh);
+            }
+        }
+    }
+
+    /** All that is kept for undo has 24 rays and six loads, with 1,920 on each. */
+    private static FanCones heavy() {
+        FanCones x = grown(SIX_LOADS, 24);
+        x.fill(0, 20);
+        x.adds(0, 0, 3);
+        x.adds(0, 0, 3);
+        x.adds(0, 0, 2);
+        x.adds(0, 0, 1);
+        for (int d = 1; d < 6; d++) {
+            x.adds(d, 0, 1);
+        }
+        for (int act = 0; act < 10; act++) {
+            x.cut(0);
+        }
+        Check.due("a fan of this test", "number", x.load(5, 23), 1920);
+        Check.due("a fan of this test", "rays", x.about(0), 24);
+        return x;
     }
 
     private static void leanTheLeastFirst() {
