@@ -374,10 +374,11 @@ public final class FanCones {
         if (refusal != 0) {
             return NONE;
         }
-        nextPast = latestPast();
+        int latest = placeInRing(nextPast - 1);
         Fan undone = now;
-        now = past[nextPast];
-        past[nextPast] = undone;
+        now = past[latest];
+        past[latest] = undone;
+        nextPast = latest;
         acts--;
         return acts;
     }
@@ -385,10 +386,11 @@ public final class FanCones {
     // ---- what is told
 
     public int letter(int d, int k) throws NoSuchElementException {
-        if (!hasLoad(d) || k < 0 || k >= Tape.lengthOf(names[d])) {
+        int name = nameOf(d);
+        if (k < 0 || k >= Tape.lengthOf(name)) {
             throw new NoSuchElementException();
         }
-        return Tape.letterOf(names[d], k);
+        return Tape.letterOf(name, k);
     }
 
     public int size() {
@@ -411,6 +413,11 @@ public final class FanCones {
 
     private boolean hasLoad(int d) {
         return d >= 0 && d < now.loads;
+    }
+
+    /** The word of a load's name; the word of no letters, if there is no such load. */
+    private int nameOf(int d) {
+        return hasLoad(d) && d < names.length ? names[d] : 0;
     }
 
     private static boolean isFar(int x, int y) {
@@ -454,8 +461,9 @@ public final class FanCones {
         return fresh;
     }
 
-    private int latestPast() {
-        return nextPast == 0 ? MOST_ACTS - 1 : nextPast - 1;
+    /** A place of the ring of kept fans, for a number that may be one step beyond either end. */
+    private static int placeInRing(int i) {
+        return i < 0 ? MOST_ACTS - 1 : i >= MOST_ACTS ? 0 : i;
     }
 
     private boolean keepIf(boolean fits) {
@@ -469,11 +477,12 @@ public final class FanCones {
 
     /** The oldest kept fan becomes the next draft: the rows go round, none is made anew. */
     private void keepDraft() {
-        Fan oldest = past[nextPast];
-        past[nextPast] = now;
+        int at = placeInRing(nextPast);
+        Fan oldest = past[at];
+        past[at] = now;
         now = draft;
         draft = oldest;
-        nextPast = nextPast == MOST_ACTS - 1 ? 0 : nextPast + 1;
+        nextPast = placeInRing(at + 1);
         acts = Math.min(MOST_ACTS, acts + 1);
     }
 
@@ -685,7 +694,8 @@ public final class FanCones {
         }
 
         private int readLoad() {
-            if (loadCount >= Fan.MOST_LOADS) {
+            int load = loadCount;
+            if (load >= Fan.MOST_LOADS) {
                 return MANY;
             }
             take();
@@ -693,7 +703,6 @@ public final class FanCones {
             if (fault != 0) {
                 return fault;
             }
-            int load = loadCount;
             loadNames[load] = value;
             loadCount++;
             int told = 0;

@@ -33,7 +33,10 @@ public final class FanConesFace {
     public static void main(String[] args) throws Exception {
         face();
         nested();
-        source(Paths.get(args.length > 0 ? args[0] : ".", "src", "main", "java", "FanCones.java"));
+        Path path = Paths.get(args.length > 0 ? args[0] : ".", "src", "main", "java", "FanCones.java");
+        String[] lines = new String(Files.readAllBytes(path), "UTF-8").split("\n");
+        source(lines);
+        indices(lines);
         System.out.println(wrong == 0 ? "the face is as it must be" : wrong + " things of the face are wrong");
         if (wrong != 0) {
             System.exit(1);
@@ -100,8 +103,7 @@ public final class FanConesFace {
         }
     }
 
-    private static void source(Path path) throws Exception {
-        String[] lines = new String(Files.readAllBytes(path), "UTF-8").split("\n");
+    private static void source(String[] lines) {
         int begun = 0;
         boolean constructor = false;
         for (int i = 0; i < lines.length; i++) {
@@ -117,8 +119,7 @@ public final class FanConesFace {
                 Matcher m = Pattern.compile(bad).matcher(line);
                 need(!m.find(), bad + " in " + where);
             }
-            boolean opens = line.matches("\\s+(public |private |static )*[\\w\\[\\]]+ ?\\w*\\(.*\\{");
-            if (opens && !line.matches("\\s+(if|for|while|switch|\\}) .*")) {
+            if (opensMethod(line)) {
                 begun = i;
                 constructor = line.contains("public FanCones(");
             }
@@ -127,5 +128,35 @@ public final class FanConesFace {
             boolean field = line.matches("\\s+(private )?final .*= new .*;");
             need(!making || field || constructor || line.contains("throw new NoSuchElementException()"), where);
         }
+    }
+
+    private static boolean opensMethod(String line) {
+        return line.matches("\\s+(public |private |static )*[\\w\\[\\]]+ ?\\w*\\(.*\\{")
+                && !line.matches("\\s+(if|for|while|switch|\\}) .*");
+    }
+
+    /** Rule 7: an index is looked at, in the method that uses it and ahead of that, or comes from placeInRing. */
+    private static void indices(String[] lines) {
+        int uses = 0;
+        StringBuilder ahead = new StringBuilder();
+        for (int i = 0; i < lines.length; i++) {
+            if (opensMethod(lines[i])) {
+                ahead.setLength(0);
+            }
+            Matcher use = Pattern.compile("\\w(?<!\\bnew \\w{1,20})\\[([^\\]]+)\\]").matcher(lines[i]);
+            int from = 0;
+            while (use.find()) {
+                ahead.append(lines[i], from, use.start());
+                from = use.start();
+                String index = use.group(1);
+                boolean isName = index.matches("[a-z]\\w*");
+                boolean isSeen = isName && Pattern.compile("\\b" + index + " ([<>]=?|==) |\\b" + index
+                        + " = placeInRing\\(").matcher(ahead).find();
+                need(isSeen, "an index that was looked at, in line " + (i + 1) + ": " + lines[i].trim());
+                uses++;
+            }
+            ahead.append(lines[i].substring(from)).append('\n');
+        }
+        need(uses > 50, "indices are found at all");
     }
 }
